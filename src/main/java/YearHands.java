@@ -664,7 +664,9 @@ public final class YearHands {
     }
 
     private static void copyRow(int[] from, int[] to) {
-        System.arraycopy(from, 0, to, 0, Math.min(from.length, to.length));
+        if (from != null && to != null) {
+            System.arraycopy(from, 0, to, 0, Math.min(from.length, to.length));
+        }
     }
 
     private static boolean isIn(int bits, int i) {
@@ -711,7 +713,7 @@ public final class YearHands {
 
         void become(Town other) {
             people = other.people;
-            System.arraycopy(other.names, 0, names, 0, names.length);
+            copyNames(other.names, names);
             copyRow(other.age, age);
             copyRow(other.coin, coin);
             copyRow(other.need, need);
@@ -721,7 +723,7 @@ public final class YearHands {
             copyRow(other.to, to);
             copyRow(other.price, price);
             rights = other.rights;
-            System.arraycopy(other.rightNames, 0, rightNames, 0, rightNames.length);
+            copyNames(other.rightNames, rightNames);
             copyRow(other.rightStart, rightStart);
             oddsStart = other.oddsStart;
             least = other.least;
@@ -730,6 +732,12 @@ public final class YearHands {
             units = other.units;
             formulas.size = other.formulas.size;
             copyRow(other.formulas.steps, formulas.steps);
+        }
+
+        private static void copyNames(long[] from, long[] to) {
+            for (int i = 0; i < from.length && i < to.length; i++) {
+                to[i] = from[i];
+            }
         }
 
         int personNamed(long name) {
