@@ -676,7 +676,6 @@ public final class YearHands {
     /** What a text told, as it was told. */
     private static final class Town {
         int people;
-        final long[] names = new long[MOST_PEOPLE];
         final int[] age = new int[MOST_PEOPLE];
         final int[] coin = new int[MOST_PEOPLE];
         final int[] need = new int[MOST_PEOPLE];
@@ -686,7 +685,6 @@ public final class YearHands {
         final int[] to = new int[MOST_FRIENDS];
         final int[] price = new int[MOST_FRIENDS];
         int rights;
-        final long[] rightNames = new long[MOST_RIGHTS];
         final int[] rightStart = new int[MOST_RIGHTS];
         int oddsStart;
         int least;
@@ -713,7 +711,6 @@ public final class YearHands {
 
         void become(Town other) {
             people = other.people;
-            copyNames(other.names, names);
             copyRow(other.age, age);
             copyRow(other.coin, coin);
             copyRow(other.need, need);
@@ -723,7 +720,6 @@ public final class YearHands {
             copyRow(other.to, to);
             copyRow(other.price, price);
             rights = other.rights;
-            copyNames(other.rightNames, rightNames);
             copyRow(other.rightStart, rightStart);
             oddsStart = other.oddsStart;
             least = other.least;
@@ -732,29 +728,6 @@ public final class YearHands {
             units = other.units;
             formulas.size = other.formulas.size;
             copyRow(other.formulas.steps, formulas.steps);
-        }
-
-        private static void copyNames(long[] from, long[] to) {
-            for (int i = 0; i < from.length && i < to.length; i++) {
-                to[i] = from[i];
-            }
-        }
-
-        int personNamed(long name) {
-            return placeOf(names, people, name);
-        }
-
-        int rightNamed(long name) {
-            return placeOf(rightNames, rights, name);
-        }
-
-        private static int placeOf(long[] row, int count, long name) {
-            for (int i = 0; i < count && i < row.length; i++) {
-                if (row[i] == name) {
-                    return i;
-                }
-            }
-            return NONE;
         }
 
         int friendsOf(int giver, int taker) {
@@ -766,11 +739,7 @@ public final class YearHands {
             return NONE;
         }
 
-        void addPerson(long name, int itsAge, int itsCoin, int itsNeed, int itsFamily) {
-            if (people < 0 || people >= names.length) {
-                return;
-            }
-            names[people] = name;
+        void addPerson(int itsAge, int itsCoin, int itsNeed, int itsFamily) {
             put(age, people, itsAge);
             put(coin, people, itsCoin);
             put(need, people, itsNeed);
@@ -779,20 +748,13 @@ public final class YearHands {
         }
 
         void addFriends(int giver, int taker, int itsPrice) {
-            if (friends < 0 || friends >= from.length) {
-                return;
-            }
             put(from, friends, giver);
             put(to, friends, taker);
             put(price, friends, itsPrice);
             friends++;
         }
 
-        void addRight(long name, int start) {
-            if (rights < 0 || rights >= rightNames.length) {
-                return;
-            }
-            rightNames[rights] = name;
+        void addRight(int start) {
             put(rightStart, rights, start);
             rights++;
         }
@@ -1032,6 +994,9 @@ public final class YearHands {
         private boolean drawTold;
         private int unitsHere;
         private int taken;
+        /** As numbers, of the PEOPLE and of the RIGHTS told so far. */
+        private final long[] names = new long[MOST_PEOPLE];
+        private final long[] rightNames = new long[MOST_RIGHTS];
 
         boolean read(byte[] text, int length) {
             fault = 0;
@@ -1081,8 +1046,7 @@ public final class YearHands {
                 return refuse(CANT_STAND);
             }
             step();
-            long name = name();
-            if (!takeNewName(draft.personNamed(name))) {
+            if (!takeNewName(names, draft.people)) {
                 return false;
             }
             if (!takeNumber(Tokens.AGE, draft.least, draft.most)) {
@@ -1102,20 +1066,34 @@ public final class YearHands {
             if (token == Tokens.FAMILY && !takeNumber(Tokens.FAMILY, 0, FAMILIES - 1)) {
                 return false;
             }
-            draft.addPerson(name, age, coin, need, taken);
+            draft.addPerson(age, coin, need, taken);
             return take(';');
         }
 
-        /** Takes a NAME; told is its number, if it was told already. */
-        private boolean takeNewName(int told) {
+        /** Takes a NAME that is not among the first so many of its sort, and puts it behind these. */
+        private boolean takeNewName(long[] told, int count) {
             if (token != Tokens.NAME) {
                 return refuse(CANT_STAND);
             }
-            if (told != NONE) {
+            if (placeAmong(told, count) != NONE) {
                 return refuse(TOLD_ALREADY);
+            }
+            if (count >= 0 && count < told.length) {
+                told[count] = name();
             }
             step();
             return true;
+        }
+
+        /** Where the NAME that is looked at stands among the first so many, or NONE. */
+        private int placeAmong(long[] told, int count) {
+            long name = name();
+            for (int i = 0; i < count && i < told.length; i++) {
+                if (told[i] == name) {
+                    return i;
+                }
+            }
+            return NONE;
         }
 
         private boolean friendLine() {
@@ -1123,7 +1101,7 @@ public final class YearHands {
                 return refuse(CANT_STAND);
             }
             step();
-            int from = draft.personNamed(name());
+            int from = placeAmong(names, draft.people);
             if (!isSomebody(from)) {
                 return false;
             }
@@ -1131,7 +1109,7 @@ public final class YearHands {
             if (!take(Tokens.TO)) {
                 return false;
             }
-            int to = draft.personNamed(name());
+            int to = placeAmong(names, draft.people);
             if (!isSomebody(to)) {
                 return false;
             }
@@ -1158,11 +1136,10 @@ public final class YearHands {
                 return refuse(CANT_STAND);
             }
             step();
-            long name = name();
-            if (!takeNewName(draft.rightNamed(name))) {
+            if (!takeNewName(rightNames, draft.rights)) {
                 return false;
             }
-            draft.addRight(name, draft.formulas.size);
+            draft.addRight(draft.formulas.size);
             return formula();
         }
 

@@ -100,11 +100,13 @@ public final class ActsTest {
         }
         CHECK.due("MOST at most", x.person(2, 0), 60);
         YearHands late = new YearHands();
-        for (int i = 0; i < 500; i++) {
+        for (int i = 1; i <= 1000; i++) {
             late.year();
         }
-        CHECK.due("YEAR 501", late.year(), 0);
-        CHECK.due("about(5)", late.about(5), 501);
+        CHECK.due("the last YEAR", late.about(5), 1000);
+        CHECK.due("beyond the last YEAR", late.year(), -1);
+        CHECK.due("nothing is done", late.about(5), 1000);
+        CHECK.due("no ACT", late.about(10), 40);
     }
 
     private static int seed(int seed, int times) {
@@ -279,12 +281,14 @@ public final class ActsTest {
         CHECK.due("ACTS at most", x.about(10), 40);
         for (int i = 0; i < 40; i++) {
             CHECK.due("undo " + i, x.undo(), true);
+            CHECK.due("the YEAR behind undo " + i, x.about(5), 44 - i);
         }
         CHECK.due("the oldest are gone", x.undo(), false);
         CHECK.due("the YEAR", x.about(5), 5);
         CHECK.due("to be redone", x.about(11), 40);
         for (int i = 0; i < 40; i++) {
             CHECK.due("redo " + i, x.redo(), true);
+            CHECK.due("the YEAR behind redo " + i, x.about(5), 6 + i);
         }
         CHECK.due("no more", x.redo(), false);
         CHECK.due("the YEAR", x.about(5), 45);

@@ -11,6 +11,7 @@ public final class RoadsTest {
         targets();
         cheapest();
         takingBack();
+        byTheDead();
         dead();
         barred();
         reach();
@@ -79,6 +80,39 @@ public final class RoadsTest {
         x.target(2, 7);
         x.target(3, 3);
         CHECK.due("some to both", x.cheapest(), 3 * 2 + 2 * 1 + 5 * 3);
+        // Only the two years that a sent to c can be taken back; the other three must go from b to d.
+        x = Check.town("person a age 2 coin 0;person b age 6 coin 0;person c age 0 coin 0;person d age 0 coin 0;"
+            + "friend a to c price 1;friend a to d price 2;friend b to c price 3;friend b to d price 90;");
+        x.target(0, 0);
+        x.target(1, 0);
+        x.target(2, 3);
+        x.target(3, 5);
+        CHECK.due("no more than was sent", x.cheapest(), 2 * 2 + 3 * 3 + 3 * 90);
+        CHECK.due("the same again", x.cheapest(), 2 * 2 + 3 * 3 + 3 * 90);
+        x = Check.town("person a age 9 coin 0;person b age 9 coin 0;friend a to b price 5;friend b to a price 7;");
+        x.target(0, 4);
+        x.target(1, 14);
+        CHECK.due("from a to b", x.cheapest(), 25);
+        x.target(0, 14);
+        x.target(1, 4);
+        CHECK.due("what was sent in an earlier call is no matter", x.cheapest(), 35);
+    }
+
+    private static void byTheDead() {
+        YearHands x = Check.town("person a age 30 coin 0;person b age 20 coin 0;person c age 30 coin 0;"
+            + "friend a to b price 1;friend b to c price 1;odds 100 * (age = 21);right r age > 39;");
+        x.target(0, 25);
+        x.target(2, 37);
+        CHECK.due("b dies", x.year(), 1);
+        CHECK.due("no ROAD by the dead", x.cheapest(), -1);
+        CHECK.due("both are barred", x.barred(), 1 | 4);
+        CHECK.due("no REACH by the dead", x.reach(2, 0, 0), -1);
+        x.undo();
+        x.target(0, 25);
+        x.target(2, 35);
+        CHECK.due("a ROAD by the living", x.cheapest(), 10);
+        CHECK.due("nobody is barred", x.barred(), 0);
+        CHECK.due("REACH by the living", x.reach(2, 0, 0), 10);
     }
 
     private static void dead() {

@@ -6,6 +6,7 @@ public final class TownTest {
     public static void main(String[] args) {
         newObject();
         tape();
+        behindTheEnd();
         told();
         resets();
         tokens();
@@ -30,6 +31,8 @@ public final class TownTest {
         CHECK.due("new: lies(0)", x.lies(0), YearHands.GAP);
         CHECK.due("new: undo()", x.undo(), false);
         CHECK.due("new: redo()", x.redo(), false);
+        CHECK.due("new: back(0)", x.back(0), -1);
+        CHECK.due("new: end(0)", x.end(0), 0);
         CHECK.due("new: town()", x.town(), 0);
         CHECK.due("NONE", YearHands.NONE, -1);
         CHECK.due("GAP", YearHands.GAP, -1000000);
@@ -61,6 +64,27 @@ public final class TownTest {
         x.feed(0x64726177, 0x2031323b, 0xff202020, 0, 0);
         CHECK.due("a byte 255", x.town(), -1);
         fault("a byte 255", x, 1, 8);
+    }
+
+    /** What stood behind the end of the TAPE is no part of the text. */
+    private static void behindTheEnd() {
+        String text = "draw 12 ;draw 1   ";
+        int[] ends = {0, 3, 4, 5, 6, 7, 8, 9, 10, 18};
+        int[] faults = {0, 2, 2, 2, 2, 2, 2, 0, 2, 2};
+        int[] places = {-1, 0, 4, 5, 6, 7, 8, -1, 9, 9};
+        for (int i = 0; i < ends.length; i++) {
+            YearHands x = new YearHands();
+            Check.put(x, text);
+            x.end(ends[i]);
+            x.town();
+            fault("the first " + ends[i] + " of " + text, x, faults[i], places[i]);
+        }
+        YearHands x = new YearHands();
+        Check.put(x, "draw 999;");
+        x.end(7);
+        x.feed(0x3b202020, 0x20202020, 0x20202020, 0x20202020, 0x20202020);
+        CHECK.due("fed behind the end", x.town(), 0);
+        CHECK.due("the SEED", x.about(6), 99);
     }
 
     private static void told() {
