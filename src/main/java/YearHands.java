@@ -413,12 +413,12 @@ public final class YearHands {
         for (int age = town.least; age <= town.most; age++) {
             put(safety.odds, age, oddsAt(age));
         }
-        int years = safety.spread(town, now);
+        int together = safety.spread(town, now);
         lyingCount = 0;
         for (int p = 0; p < town.people; p++) {
             lay(isAlive(p) ? at(safety.ages, p) : NONE);
         }
-        return years;
+        return together;
     }
 
     public boolean bends() {

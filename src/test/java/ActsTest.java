@@ -13,7 +13,9 @@ public final class ActsTest {
         defaults();
         inOrder();
         undone();
-        mostActs();
+        mostActs(40);
+        mostActs(45);
+        mostActs(300);
         mostLoans();
         boxes();
         CHECK.finish();
@@ -273,31 +275,30 @@ public final class ActsTest {
         CHECK.due("redo() still", x.redo(), true);
     }
 
-    private static void mostActs() {
+    private static void mostActs(int acts) {
         YearHands x = new YearHands();
-        for (int i = 0; i < 45; i++) {
+        for (int i = 0; i < acts; i++) {
             x.year();
         }
         CHECK.due("ACTS at most", x.about(10), 40);
-        for (int i = 0; i < 40; i++) {
+        for (int i = 1; i <= 40; i++) {
             CHECK.due("undo " + i, x.undo(), true);
-            CHECK.due("the YEAR behind undo " + i, x.about(5), 44 - i);
+            CHECK.due("the YEAR behind undo " + i, x.about(5), acts - i);
         }
         CHECK.due("the oldest are gone", x.undo(), false);
-        CHECK.due("the YEAR", x.about(5), 5);
+        CHECK.due("the YEAR", x.about(5), acts - 40);
         CHECK.due("to be redone", x.about(11), 40);
-        for (int i = 0; i < 40; i++) {
+        for (int i = 1; i <= 40; i++) {
             CHECK.due("redo " + i, x.redo(), true);
-            CHECK.due("the YEAR behind redo " + i, x.about(5), 6 + i);
+            CHECK.due("the YEAR behind redo " + i, x.about(5), acts - 40 + i);
         }
         CHECK.due("no more", x.redo(), false);
-        CHECK.due("the YEAR", x.about(5), 45);
         x.undo();
         x.year();
         CHECK.due("ACTS", x.about(10), 40);
         x.year();
         CHECK.due("ACTS", x.about(10), 40);
-        CHECK.due("the YEAR", x.about(5), 46);
+        CHECK.due("the YEAR", x.about(5), acts + 1);
     }
 
     private static void mostLoans() {
