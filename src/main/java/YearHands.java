@@ -918,8 +918,7 @@ public final class YearHands {
             for (; next < length && isLetter(byteAt(text, next)); next++) {
                 name = name * 27 + (byteAt(text, next) - 'a' + 1);
             }
-            // A letter directly behind an N can't begin a TOKEN.
-            if (next - start > MOST_LETTERS || isDigit(byteAt(text, start - 1))) {
+            if (next - start > MOST_LETTERS) {
                 return BAD;
             }
             if (count >= 0 && count < names.length) {
@@ -953,7 +952,9 @@ public final class YearHands {
                 number = number * 10 + (byteAt(text, next) - '0');
             }
             put(numbers, count, number);
-            return next - start > MOST_DIGITS ? BAD : NUMBER;
+            // Digits with a letter directly behind them are no N, as a longer row of them is none.
+            boolean letterBehind = next < length && isLetter(byteAt(text, next));
+            return letterBehind || next - start > MOST_DIGITS ? BAD : NUMBER;
         }
 
         private static int byteAt(byte[] text, int i) {

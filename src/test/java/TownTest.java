@@ -158,12 +158,38 @@ public final class TownTest {
         bad("five digits", "draw 00001;", 1, 5);
         bad("four digits", "draw 1000;", 4, 5);
         good("four digits with zeros", "draw 0999;");
-        bad("a letter directly behind an N", "ages 1to 2;", 1, 6);
-        bad("a letter directly behind an N that can't be", "draw 1000x;", 4, 5);
-        bad("a letter directly behind an N that can't stand", "1draw", 2, 0);
+        bad("a letter directly behind an N", "ages 1to 2;", 1, 5);
+        bad("a letter directly behind an N that can't be", "draw 1000x;", 1, 5);
+        bad("a letter directly behind an N that can't stand", "1draw", 1, 0);
+        bad("a letter directly behind four digits", "draw 0999a", 1, 5);
+        bad("a long row of letters directly behind an N", "draw 1abcdefghi;", 1, 5);
         bad("a long row of digits with letters", "draw 12345x;", 1, 5);
+        bad("a letter directly behind a unit", "right x 1+2z;", 1, 10);
+        bad("a letter directly behind an N, a unit too many", "right x 1" + "+1".repeat(29) + "+1or 1;", 1, 68);
+        bad("a capital letter behind an N", "draw 1A;", 1, 6);
+        bad("a capital letter behind an N that can't stand", "1A", 2, 0);
+        good("a blank between", "ages 1 to 2;");
+        good("a line's end between", "ages 1\nto\n2;");
+        bad("a blank between an N and a word that can't stand", "draw 1 x;", 2, 7);
+        behindAnOldNumber();
         good("a sign directly behind an N", "right x 1+1;");
         good("an N directly behind a word", "right x not1 and not0;");
+    }
+
+    /** A letter behind the end of the text, from an older TAPE, is not directly behind the N. */
+    private static void behindAnOldNumber() {
+        YearHands x = new YearHands();
+        Check.put(x, "draw 1x;");
+        x.end(6);
+        x.town();
+        fault("the text ends behind the N", x, 2, 6);
+        Check.put(x, "6m");
+        x.end(1);
+        x.town();
+        fault("6, with m behind the end", x, 2, 0);
+        Check.put(x, "6m");
+        x.town();
+        fault("6m", x, 1, 0);
     }
 
     private static void lines() {
