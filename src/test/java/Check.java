@@ -1,11 +1,57 @@
+import java.lang.reflect.InvocationTargetException;
+import java.lang.reflect.Method;
+import java.lang.reflect.Modifier;
+import java.util.Arrays;
+import java.util.Comparator;
+
 /** What the tests share: they compare answers, and tell towns as a user would. */
 final class Check {
     private int wrong = 0;
     private int asked = 0;
     private final String what;
+    /** The name of the test that runs, if runAll runs it. */
+    private String test = "";
 
     Check(String what) {
         this.what = what;
+    }
+
+    /** Runs each test of a class: each static method without parameters. Its name is told where an answer is not as due. */
+    void runAll(Class<?> tests) {
+        Method[] methods = tests.getDeclaredMethods();
+        Arrays.sort(methods, Comparator.comparing(Method::getName));
+        int ran = 0;
+        for (Method method : methods) {
+            boolean plain = Modifier.isStatic(method.getModifiers()) && !method.isSynthetic();
+            if (plain && method.getParameterCount() == 0 && method.getReturnType() == void.class) {
+                runOne(method);
+                ran++;
+            }
+        }
+        System.out.println(what + ": " + ran + " tests");
+        finish();
+    }
+
+    private void runOne(Method method) {
+        test = "." + method.getName();
+        int before = asked;
+        try {
+            method.setAccessible(true);
+            method.invoke(null);
+        } catch (InvocationTargetException thrown) {
+            fail("threw " + thrown.getCause());
+        } catch (ReflectiveOperationException thrown) {
+            fail("can't be run: " + thrown);
+        }
+        if (asked == before) {
+            fail("asks for nothing");
+        }
+        test = "";
+    }
+
+    private void fail(String how) {
+        wrong++;
+        System.out.println(what + test + ": " + how);
     }
 
     void due(String call, long got, long want) {
@@ -13,7 +59,7 @@ final class Check {
         if (got != want) {
             wrong++;
             if (wrong <= 50) {
-                System.out.println(what + ": " + call + " answered " + got + ", due is " + want);
+                System.out.println(what + test + ": " + call + " answered " + got + ", due is " + want);
             }
         }
     }
@@ -30,6 +76,29 @@ final class Check {
         }
         due(call + ", lies(" + want.length + ")", x.lies(want.length), YearHands.GAP);
         due(call + ", lies(-1)", x.lies(-1), YearHands.GAP);
+    }
+
+    /** A text that has no FAULT: the object that it is told. */
+    YearHands good(String text) {
+        YearHands x = new YearHands();
+        int people = tell(x, text);
+        due(text + " is a TOWN", people != YearHands.NONE, true);
+        due("FAULT of " + text, x.fault(0), 0);
+        due("its place in " + text, x.fault(1), YearHands.NONE);
+        return x;
+    }
+
+    /** A text whose FAULT is that one, at that place. */
+    void bad(String text, int fault, int place) {
+        YearHands x = new YearHands();
+        due(text + " is no TOWN", tell(x, text), YearHands.NONE);
+        due("FAULT of " + text, x.fault(0), fault);
+        due("its place in " + text, x.fault(1), place);
+    }
+
+    /** The same, the place told by what stands ahead of it. */
+    void badBehind(String ahead, String behind, int fault) {
+        bad(ahead + behind, fault, ahead.length());
     }
 
     void finish() {
