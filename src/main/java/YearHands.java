@@ -1398,8 +1398,6 @@ public final class YearHands {
             put(holder, loan, to);
             put(lent, loan, n);
             put(till, loan, itsTill);
-            // An undone LOAN may have left its bit.
-            over &= ~(1 << loan);
             loans++;
             return loan;
         }

@@ -353,6 +353,7 @@ public final class FacesBoundsTest {
         CHECK.due("two unlike ones", x.explained(0), 0);
         CHECK.due("in the other order", faces(TOWN, 0, 27, 0, 28).explained(0), 0);
         CHECK.due("one as told", faces(TOWN, 0, 30, 0, 28).explained(0), 0);
+        CHECK.due("another one behind", faces(TOWN, 0, 30, 0, 28, 1, 22).explained(0), 0);
         x.untell(1);
         CHECK.due("one of both", x.explained(0) > 0, true);
     }
@@ -421,6 +422,17 @@ public final class FacesBoundsTest {
         x.safest();
         CHECK.due("before all", x.explained(-1), 1 + 27 + 3 * 81);
         CHECK.lies("without GIFTS", x);
+        x = faces(TOWN, 0, 29);
+        x.explained(0);
+        CHECK.lies("by one", x, 0, 1);
+        x.face(0, 28);
+        CHECK.due("two unlike FACES", x.explained(0), 0);
+        CHECK.lies("behind 0, numbers before", x);
+        x.untell(1);
+        x.explained(0);
+        x.face(1, 60);
+        CHECK.due("what can't be", x.explained(0), 0);
+        CHECK.lies("behind 0, numbers before", x);
     }
 
     // ---- SURE, promise 37
@@ -444,6 +456,12 @@ public final class FacesBoundsTest {
         CHECK.due("sure(3, 0)", x.sure(3, 0), 50);
         x = faces(TOWN, 0, 30);
         CHECK.due("by none or b to c", x.explained(0), 1 + 9);
+        CHECK.due("sure(2, 0)", x.sure(2, 0), -2);
+        x = faces(FOUR + "friend a to b price 0;friend a to c price 0;friend a to d price 0;", 0, 29);
+        CHECK.due("21, 20, 20", x.sure(1, 0), -2);
+        CHECK.due("40, 41, 40", x.sure(2, 0), -2);
+        CHECK.due("50, 50, 51", x.sure(3, 0), -2);
+        x = faces(TOWN, 0, 30);
         CHECK.due("sure(1, 0)", x.sure(1, 0), -2);
         CHECK.due("sure(0, 0)", x.sure(0, 0), 30);
     }
@@ -525,6 +543,8 @@ public final class FacesBoundsTest {
         CHECK.due("one as told", faces(TOWN, 0, 30, 0, 28).forged(0), 0);
         CHECK.due("one as told, behind", faces(TOWN, 0, 28, 0, 30).forged(0), 0);
         CHECK.due("another one besides", faces(TOWN, 0, 28, 0, 30, 1, 20).forged(0), 0);
+        CHECK.due("another one behind", faces(TOWN, 0, 30, 0, 28, 1, 20).forged(0), 0);
+        CHECK.due("a like one behind", faces(TOWN, 0, 30, 0, 28, 0, 28).forged(0), 0);
     }
 
     /** "without GIFTS": though some would explain it. */

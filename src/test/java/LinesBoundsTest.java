@@ -72,6 +72,25 @@ public final class LinesBoundsTest {
         CHECK.badBehind("draw", ";", 2);
     }
 
+    /** "town = {line}": a line that breaks off is none, though a whole one stands behind it. */
+    static void aLineThatBreaksOffIsNone() {
+        String[] lines = {"person c age 1 coin 1 need 1 family 1", "friend a to b price 1", "right x not ( 1 + 2 ) * 3 = 4 and 5 or 6",
+            "odds age", "draw 7"};
+        for (String line : lines) {
+            String[] words = line.split(" ");
+            StringBuilder broken = new StringBuilder(TWO);
+            for (String word : words) {
+                broken.append(word).append(' ');
+                CHECK.badBehind(broken.toString(), "right y 1;", 2);
+                CHECK.badBehind(broken.toString(), "person d age 1 coin 1;", 2);
+            }
+        }
+        CHECK.badBehind("ages ", "draw 7;", 2);
+        CHECK.badBehind("ages 1 ", "draw 7;", 2);
+        CHECK.badBehind("ages 1 to ", "draw 7;", 2);
+        CHECK.badBehind("ages 1 to 2 ", "draw 7;", 2);
+    }
+
     /** "right NAME e", "odds e": e is not empty. */
     static void anEIsNotEmpty() {
         CHECK.badBehind("right x", ";", 2);

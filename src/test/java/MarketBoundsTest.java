@@ -43,6 +43,7 @@ public final class MarketBoundsTest {
         CHECK.due("one coin more", Check.town(town.replace("%d", "71")).market(7, 0), 10);
         CHECK.due("one year", Check.town(town.replace("%d", "7")).market(7, 0), 1);
         CHECK.due("not one year", Check.town(town.replace("%d", "6")).market(7, 0), 0);
+        CHECK.due("not the one year that he needs", Check.town("person a age 19 coin 6 need 20;").market(7, 0), 0);
         CHECK.due("no coin", Check.town(town.replace("%d", "0")).market(1, 0), 0);
     }
 
@@ -156,6 +157,8 @@ public final class MarketBoundsTest {
         CHECK.due("tax 11", x.rests(11, 0), 0);
         CHECK.due("tax 11, off", x.rests(11, 1), -1);
         CHECK.due("tax 99, off", x.rests(99, 1), -9);
+        // 2 years at 50, 1 at 51 .. 100.
+        CHECK.due("0 is a price with a tax, too", Check.town(town(1, 100)).rests(51, 0), 0);
     }
 
     /** "GAP for another what" */

@@ -235,6 +235,7 @@ public final class PeopleBoundsTest {
     static void andIs1Or0OfWhatIsNot0() {
         value("5 and 6", "1");
         value("0-1 and 2", "1");
+        value("2 and 0-1", "1");
         value("1 and 2", "1");
         value("5 and 0", "0");
         value("0 and 5", "0");

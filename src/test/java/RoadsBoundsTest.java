@@ -119,6 +119,7 @@ public final class RoadsBoundsTest {
     static void allOthersAreAsTheyAre() {
         CHECK.due("a alone", cheapest(TOWN, 29), -1);
         CHECK.due("a and b", cheapest(TOWN, 29, 21), 2);
+        CHECK.due("b and c", cheapest(TOWN, -1, 19, 51), 3);
         CHECK.due("a and c, b as he is", cheapest(TOWN, 29, -1, 51), 5);
     }
 
@@ -161,6 +162,108 @@ public final class RoadsBoundsTest {
             + "friend a to c price 1;friend a to d price 2;friend b to c price 3;friend b to d price 5;";
         CHECK.due("a to d, b to c", cheapest(town, 0, 0, 5, 5), 5 * 2 + 5 * 3);
         CHECK.due("one a to c", cheapest(town, 0, 0, 6, 4), 1 + 4 * 2 + 5 * 3);
+    }
+
+    /** "the fewest prices together": who has a cheap way leaves it to one who has none, one year or more. */
+    static void theNearestIsNotTheCheapest() {
+        String friends = "friend a to c price 1;friend a to d price 2;friend b to c price 3;friend b to d price 90;";
+        for (int years : new int[] {1, 5}) {
+            String town = people(years, years, 0, 0) + friends;
+            CHECK.due("a to d, b to c", cheapest(town, 0, 0, years, years), years * 5);
+        }
+        CHECK.due("some to both", cheapest(people(5, 5, 0, 0) + friends, 0, 0, 7, 3), 3 * 2 + 2 * 1 + 5 * 3);
+        CHECK.due("no more than there are", cheapest(people(2, 6, 0, 0) + friends, 0, 0, 3, 5), 2 * 2 + 3 * 3 + 3 * 90);
+        CHECK.due("not all by one", cheapest(people(3, 4, 0, 0) + friends, 0, 0, 7, 0), 3 * 1 + 4 * 3);
+    }
+
+    private static String people(int... ages) {
+        StringBuilder text = new StringBuilder();
+        for (int p = 0; p < ages.length; p++) {
+            text.append("person ").append((char) ('a' + p)).append(" age ").append(ages[p]).append(" coin 0;");
+        }
+        return text.toString();
+    }
+
+    /** "(..; nothing is done": what went in an earlier question is no matter to the next. */
+    static void anEarlierQuestionIsNoMatter() {
+        YearHands x = Check.town(people(9, 9) + "friend a to b price 5;friend b to a price 7;");
+        x.target(0, 4);
+        x.target(1, 14);
+        CHECK.due("from a to b", x.cheapest(), 25);
+        x.target(0, 14);
+        x.target(1, 4);
+        CHECK.due("from b to a", x.cheapest(), 35);
+        x.target(0, 4);
+        x.target(1, 14);
+        CHECK.due("from a to b again", x.cheapest(), 25);
+    }
+
+    /** "Prices of a year's ROAD from one to another one": whatever the way back costs. */
+    static void aRoadIsNotTheWayBack() {
+        String town = THREE + "friend a to b price 2;friend b to c price 3;friend c to a price %d;right r age=51;right s age=31;";
+        for (int back : new int[] {1, 4, 5, 6, 99}) {
+            YearHands x = Check.town(town.replace("%d", "" + back));
+            CHECK.due("b to c", x.reach(2, 0, 0), 3);
+            CHECK.due("c to a, back at " + back, x.reach(0, 1, 0), back);
+            x = Check.town(town.replace("%d", "" + back).replace("age 20", "age 10"));
+            CHECK.due("a to c by b, back at " + back, x.reach(2, 0, 0), 5);
+        }
+    }
+
+    /** "of GIFTS one behind the other": by the first of PEOPLE, from him, to him. */
+    static void aRoadByTheFirstPerson() {
+        String town = "ages 10 to 60;person a age %d coin 0;person b age 20 coin 0;person c age 50 coin 0;"
+            + "friend b to a price 2;friend a to c price 3;right r age=51;";
+        YearHands x = Check.town(town.replace("%d", "10"));
+        CHECK.due("by a, who has none", x.reach(2, 0, 0), 5);
+        x.target(2, 60);
+        CHECK.due("barred()", x.barred(), 0);
+        x = Check.town(town.replace("%d", "11"));
+        CHECK.due("from a", x.reach(2, 0, 0), 3);
+        x = Check.town("ages 10 to 60;person a age 30 coin 0;person b age 10 coin 0;person c age 50 coin 0;"
+            + "friend c to b price 2;friend b to a price 3;right r age=31;right s age=49;");
+        CHECK.due("to a by b", x.reach(0, 0, 0), 5);
+        CHECK.due("c gives to b", x.reach(2, 1, 0), 2);
+        x = Check.town("ages 10 to 60;person a age 30 coin 0;person b age 60 coin 0;person c age 50 coin 0;"
+            + "friend c to b price 2;friend b to a price 3;right s age=49;");
+        CHECK.due("c gives to a by b, who is at MOST", x.reach(2, 0, 0), 5);
+        x = Check.town("ages 10 to 60;person a age 10 coin 0;person b age 60 coin 0;friend b to a price 3;right s age=59;");
+        CHECK.due("b gives to a, who is at LEAST", x.reach(1, 0, 0), 3);
+    }
+
+    /** "of GIFTS one behind the other": in whatever order FRIENDS were told, and from whomever. */
+    static void aRoadInWhateverOrderFriendsWereTold() {
+        String town = people(30, 30, 30, 30) + "friend c to a price 3;friend b to c price 2;friend d to b price 1;friend a to d price 9;";
+        CHECK.due("from d to a", cheapest(town, 31, -1, -1, 29), 6);
+        CHECK.due("from a to c", cheapest(town, 29, -1, 31, -1), 9 + 1 + 2);
+        CHECK.due("from b to d", cheapest(town, -1, 29, -1, 31), 2 + 3 + 9);
+    }
+
+    /** "one to another one": of eight PEOPLE in a ring to each from each. */
+    static void aRoadFromEachToEach() {
+        StringBuilder text = new StringBuilder("ages 0 to 150;" + people(75, 75, 75, 75, 75, 75, 75, 75));
+        for (int p = 7; p >= 0; p--) {
+            text.append("friend ").append((char) ('a' + p)).append(" to ").append((char) ('a' + (p + 1) % 8));
+            text.append(" price ").append(10 + p).append(';');
+        }
+        for (int from = 0; from < 8; from++) {
+            int price = 0;
+            for (int i = 1; i < 8; i++) {
+                price += 10 + (from + i - 1) % 8;
+                int to = (from + i) % 8;
+                int[] ages = {-1, -1, -1, -1, -1, -1, -1, -1};
+                ages[from] = 74;
+                ages[to] = 76;
+                CHECK.due("from " + from + " to " + to, cheapest(text.toString(), ages), price);
+            }
+        }
+        for (int p = 0; p < 8; p++) {
+            YearHands x = Check.town(text + "right r age=76;right s age=74;right t age=150;right u age=0;");
+            CHECK.due("one more for " + p, x.reach(p, 0, 0), 10 + (p + 7) % 8);
+            CHECK.due("one less for " + p, x.reach(p, 1, 0), 10 + p);
+            CHECK.due("all of one for " + p, x.reach(p, 2, 0), 75 * (10 + (p + 7) % 8));
+            CHECK.due("all to one from " + p, x.reach(p, 3, 0), 75 * (10 + p));
+        }
     }
 
     /** "(coins, ages between are no matter)": nobody has a coin. */
@@ -251,6 +354,39 @@ public final class RoadsBoundsTest {
         CHECK.due("one more", barred(town, 24), 1);
         CHECK.due("b to c alone", barred(town, -1, 55), 0);
         CHECK.due("b, one more", barred(town, -1, 54), 2);
+    }
+
+    /** "all others": nobody gives to himself, though a ROAD leads back to him. */
+    static void nobodyGivesToHimself() {
+        String town = "ages 10 to 60;person a age 30 coin 0;person b age 15 coin 0;friend a to b price 1;friend b to a price 2;"
+            + "right r age=35;right s age=36;right t age=10;";
+        CHECK.due("all that b has", barred(town, 35), 0);
+        CHECK.due("one more", barred(town, 36), 1);
+        CHECK.due("a to LEAST", barred(town, 10), 0);
+        YearHands x = Check.town(town);
+        CHECK.due("all that b has", x.reach(0, 0, 0), 10);
+        CHECK.due("one more", x.reach(0, 1, 0), -1);
+        CHECK.due("a to LEAST", x.reach(0, 2, 0), 20);
+        x = targets(town.replace("b age 15", "b age 58"), 28);
+        CHECK.due("all that b can take", x.barred(), 0);
+        x.target(0, 27);
+        CHECK.due("one more", x.barred(), 1);
+    }
+
+    /** "from LEAST to MOST": 0 and 150, the least and the most that there are. */
+    static void barredAndReachAtAges0And150() {
+        String town = "ages 0 to 150;" + people(149, 150, 1, 0) + "friend a to b price 7;friend d to c price 7;"
+            + "right r age=150;right s age=0;";
+        CHECK.due("nobody gives to a, takes of c", barred(town, 150, -1, 0), 1 | 4);
+        CHECK.due("as they are", barred(town, -1, 150, -1, 0), 0);
+        YearHands x = Check.town(town);
+        CHECK.due("a", x.reach(0, 0, 0), -1);
+        CHECK.due("c", x.reach(2, 1, 0), -1);
+        CHECK.due("b", x.reach(1, 0, 1), 150);
+        CHECK.due("d", x.reach(3, 1, 1), 0);
+        x = Check.town(town.replace("a to b", "b to a").replace("d to c", "c to d"));
+        CHECK.due("a takes one of b", x.reach(0, 0, 0), 7);
+        CHECK.due("c gives one to d", x.reach(2, 1, 0), 7);
     }
 
     /** "all others": whatever their own TARGETS are. */

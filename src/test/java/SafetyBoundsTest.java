@@ -84,6 +84,13 @@ public final class SafetyBoundsTest {
         safest("ages 0 to 40;" + people(20, 20) + "odds 10*(age>0)+15*(age>39)-5*(age=25);", 15, 15, 25);
     }
 
+    /** "fewest ODDS together": none at all, though one is found ahead of it. */
+    static void noneIsFewerThanOne() {
+        safest("ages 0 to 40;" + people(20, 20) + "odds age<1;", 0, 1, 39);
+        safest("ages 0 to 40;" + people(20, 20, 20) + "odds age<19;", 0, 19, 19, 22);
+        safest("ages 0 to 40;" + people(20, 20) + "odds 1+(age<1);", 2, 1, 39);
+    }
+
     /** "of like ones the first (by PEOPLE, the least)": all are like without ODDS. */
     static void ofLikeOnesTheFirst() {
         safest(people(20, 30, 100), 0, 0, 30, 120);

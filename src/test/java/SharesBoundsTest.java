@@ -99,6 +99,8 @@ public final class SharesBoundsTest {
         twice(town + "right r family=1 or age=32 or age=35;", 3, 0, 2, 2);
         twice(town + "right r family=1 or age=29;", 2, 0, 3, 4);
         twice(town + "right r family=1 or age=21;", 1, 0, 1, 1);
+        twice(town.replace("b age 20 coin 0", "b age 20 coin 0 family 1") + "friend b to c price 0;right r family=1 or age=32;",
+            3, 0, 2, 2);
     }
 
     /** "FRIENDS ..: how many": the last of twenty counts, too. */
@@ -241,6 +243,13 @@ public final class SharesBoundsTest {
     static void whoHasItTakesNone() {
         all(TWO + "right r age>19;", 0);
         all(TWO + "right r age>20;", 1, 1);
+    }
+
+    /** "one gives": the last one, too, and to the first. */
+    static void theLastGivesToTheFirst() {
+        YearHands x = Check.town(people(10, 15, 30) + "friend c to b price 0;friend c to a price 0;right r age>19;");
+        CHECK.due("all(2, 0)", x.all(2, 0), 2);
+        CHECK.lies("all(2, 0)", x, 1, 0);
     }
 
     /** "FRIENDS .. (straight": not by others, not the other way. */

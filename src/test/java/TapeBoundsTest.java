@@ -238,6 +238,29 @@ public final class TapeBoundsTest {
         CHECK.due("SEED", x.about(6), 7);
     }
 
+    /** "is the TOWN": FRIENDS, RIGHTS, PEOPLE of the one before are none, though it had more. */
+    static void whatWasToldBeforeIsNotThere() {
+        String people = "person a age 30 coin 50;person b age 20 coin 50;person c age 10 coin 50;";
+        YearHands x = Check.town(people + "friend a to b price 2;friend c to a price 0;friend b to c price 0;right r age;right s age;");
+        Check.tell(x, people + "friend a to b price 2;right r age>20;");
+        CHECK.due("give(2, 0, 1)", x.give(2, 0, 1), -1);
+        CHECK.due("lend(1, 2, 1, 1)", x.lend(1, 2, 1, 1), -1);
+        CHECK.due("has(0, 1)", x.has(0, 1), -1);
+        CHECK.due("twice(0)", x.twice(0), 1);
+        CHECK.due("all(1, 0)", x.all(1, 0), 0);
+        CHECK.due("reach(2, 0, 0)", x.reach(2, 0, 0), -1);
+        CHECK.due("explained(0)", x.explained(0), 1 + 9);
+        x.target(2, 9);
+        x.target(0, 31);
+        CHECK.due("cheapest()", x.cheapest(), -1);
+        CHECK.due("barred()", x.barred(), 1 | 4);
+        Check.tell(x, "person a age 30 coin 50;");
+        CHECK.due("person(1, 0)", x.person(1, 0), -1);
+        CHECK.due("sum(-1)", x.sum(-1), 30);
+        CHECK.due("market(0, 0)", x.market(0, 0), 0);
+        CHECK.due("payments()", x.payments(), 0);
+    }
+
     /** "all alive" */
     static void allAreAlive() {
         YearHands x = Check.town("person a age 1 coin 0;person b age 1 coin 0;odds 100;");
@@ -260,12 +283,15 @@ public final class TapeBoundsTest {
     static void thereAreNoLoans() {
         YearHands x = busy();
         CHECK.due("LOANS before", x.about(8), 2);
+        CHECK.due("the second is OVER", x.loan(1, 4), 1);
         Check.tell(x, TOWN);
         CHECK.due("LOANS", x.about(8), 0);
         CHECK.due("loan(0, 0)", x.loan(0, 0), -1);
         CHECK.due("net(0)", x.net(0), 0);
         CHECK.due("the next one's number", x.lend(0, 1, 1, 9), 0);
-        CHECK.due("it is not OVER", x.loan(0, 4), 0);
+        CHECK.due("the one behind it", x.lend(0, 1, 1, 9), 1);
+        CHECK.due("the first is not OVER", x.loan(0, 4), 0);
+        CHECK.due("nor is the second", x.loan(1, 4), 0);
     }
 
     /** "no LOANS": no DEFAULTS. */

@@ -193,6 +193,16 @@ public final class TokensBoundsTest {
         x.town();
         CHECK.due("FAULT at the end", x.fault(0), 2);
         CHECK.due("its place", x.fault(1), 6);
+        Check.put(x, "draw 77");
+        x.end(6);
+        x.town();
+        CHECK.due("FAULT at the end within digits", x.fault(0), 2);
+        CHECK.due("its place", x.fault(1), 6);
+        Check.put(x, "draw 7 \n;");
+        x.end(6);
+        x.town();
+        CHECK.due("FAULT at the end ahead of blanks", x.fault(0), 2);
+        CHECK.due("its place", x.fault(1), 6);
         Check.put(x, "right abcdefghi 1;");
         x.end(14);
         x.town();

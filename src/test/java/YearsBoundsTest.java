@@ -453,6 +453,21 @@ public final class YearsBoundsTest {
         CHECK.due("the YEAR", x.about(5), 41);
     }
 
+    /** "40 at most are kept, the oldest go": however many there were. */
+    static void theOldestOfManyActsGo() {
+        for (int acts : new int[] {79, 80, 81, 82, 83, 121, 200, 400}) {
+            YearHands x = Check.town(ONE);
+            for (int i = 0; i < acts; i++) {
+                x.year();
+            }
+            for (int i = 1; i <= 40; i++) {
+                x.undo();
+                CHECK.due("the YEAR behind " + acts + " ACTS, undo " + i, x.about(5), acts - i);
+            }
+            CHECK.due("no more", x.undo(), false);
+        }
+    }
+
     /** "40 at most are kept": those that were taken back are among them no more when another ACT comes. */
     static void whatWasTakenBackIsNotAmongForty() {
         YearHands x = Check.town(ONE);
@@ -469,6 +484,17 @@ public final class YearsBoundsTest {
         }
         CHECK.due("no more", x.undo(), false);
         CHECK.due("the YEAR", x.about(5), 5);
+    }
+
+    /** "UNDO takes back": a LOAN that was taken back does not come back. */
+    static void aLoanTakenBackDoesNotComeBack() {
+        YearHands x = Check.town(RING);
+        x.lend(1, 0, 5, 1);
+        x.undo();
+        x.year();
+        ages("a YEAR older alone", x, 11, 40, 21);
+        CHECK.due("LOANS", x.about(8), 0);
+        CHECK.due("DEFAULTS", x.about(9), 0);
     }
 
     // ---- REDO, promise 14
@@ -610,6 +636,21 @@ public final class YearsBoundsTest {
         CHECK.due("the first LOAN is OVER", x.loan(0, 4), 1);
         CHECK.due("the second is not", x.loan(1, 4), 0);
         CHECK.due("its years", x.loan(1, 2), 6);
+    }
+
+    /** "LOANS .. are kept": of each who lent, who has, years, till, in place of another one of its number. */
+    static void loansAreKept() {
+        YearHands x = Check.town(RING);
+        x.lend(1, 0, 5, 9);
+        x.image(0);
+        x.undo();
+        x.lend(2, 1, 1, 2);
+        x.back(0);
+        int[] due = {1, 0, 5, 9, 0};
+        for (int what = 0; what < 5; what++) {
+            CHECK.due("loan(0, " + what + ")", x.loan(0, what), due[what]);
+        }
+        CHECK.due("net(1)", x.net(1), 5);
     }
 
     /** "kept": what is done later does not change what is in the BOX, also when it was gone back to. */
