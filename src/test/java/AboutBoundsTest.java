@@ -150,61 +150,71 @@ public final class AboutBoundsTest {
         CHECK.due("a", x.person(0, 0), 30);
         x = new YearHands();
         for (int call = 1; call < 512; call++) {
-            x.year();
+            CHECK.due("call " + call, x.year(), 0);
         }
-        CHECK.due("the 512th", x.year(), 0);
-        CHECK.due("the YEAR", x.about(5), 512);
+        CHECK.due("the 512th", x.about(5), 511);
     }
 
-    /** "for any arguments": whatever is told, an answer comes, and what can't be does nothing. */
+    /** LANGUAGE.md: "No call may ever throw or fail to end, for any arguments in any state": what can't be does nothing. */
     static void whateverIsToldNothingIsDone() {
         int[] odd = {Integer.MIN_VALUE, Integer.MIN_VALUE + 1, -1000000, -2, -1, 1001, 1601, 65536, Integer.MAX_VALUE - 1,
             Integer.MAX_VALUE};
-        YearHands x = town();
         for (int a : odd) {
+            YearHands x = town();
             for (int b : odd) {
-                x.person(a, b);
-                x.has(a, b);
-                x.give(a, b, a);
-                x.give(0, 1, a);
-                x.lend(0, 1, a, b);
-                x.lend(a, b, 1, 1);
-                x.lend(0, 1, 1, a);
-                x.loan(a, b);
-                x.target(a, b);
-                x.target(0, a);
-                x.reach(a, b, a);
-                x.market(a, b);
-                x.rests(a, b);
-                x.corner(a, b);
-                x.corner(0, a);
-                x.all(a, b);
-                x.face(a, b);
-                x.face(0, a);
-                x.sure(a, b);
-                x.later(a);
-                x.end(a);
-                x.image(a);
-                x.back(a);
-                x.untell(a);
+                askOfTwo(x, a, b);
             }
-            x.fault(a);
-            x.odds(a);
-            x.sum(a);
-            x.net(a);
-            x.twice(a);
-            x.fair(a);
-            x.lies(a);
-            x.explained(a);
-            x.sure(0, a);
-            x.forged(a);
-            x.about(a);
+            askOfOne(x, a);
+            int[] due = {2, 2, 2, 10, 60, 0, 7, 3, 0, 0, 0, 0, 0, 0, 0, 0, 7, 0};
+            for (int what = 0; what < due.length; what++) {
+                CHECK.due("about(" + what + ") behind " + a, x.about(what), due[what]);
+            }
+            CHECK.due("a behind " + a, x.person(0, 0), 30);
+            CHECK.due("b behind " + a, x.person(1, 0), 20);
         }
-        int[] due = {2, 2, 2, 10, 60, 0, 7, 3, 0, 0, 0, 0, 0, 0, 0, 0, 7, 0};
-        for (int what = 0; what < due.length; what++) {
-            CHECK.due("about(" + what + ")", x.about(what), due[what]);
-        }
-        CHECK.due("a", x.person(0, 0), 30);
-        CHECK.due("b", x.person(1, 0), 20);
+    }
+
+    private static void askOfTwo(YearHands x, int a, int b) {
+        x.person(a, b);
+        x.has(a, b);
+        x.give(a, b, a);
+        x.lend(0, 1, a, b);
+        x.lend(a, b, 1, 1);
+        x.loan(a, b);
+        x.target(a, b);
+        x.reach(a, b, a);
+        x.market(a, b);
+        x.rests(a, b);
+        x.corner(a, b);
+        x.all(a, b);
+        x.face(a, b);
+        x.sure(a, b);
+    }
+
+    private static void askOfOne(YearHands x, int a) {
+        x.give(0, 1, a);
+        x.lend(0, 1, 1, a);
+        x.target(0, a);
+        x.target(a, 20);
+        x.reach(0, 0, a);
+        x.corner(0, a);
+        x.face(0, a);
+        x.face(a, 20);
+        x.later(a);
+        x.end(a);
+        x.image(a);
+        x.back(a);
+        x.untell(a);
+        x.fault(a);
+        x.odds(a);
+        x.sum(a);
+        x.net(a);
+        x.twice(a);
+        x.fair(a);
+        x.lies(a);
+        x.explained(a);
+        x.sure(0, a);
+        x.forged(a);
+        x.about(a);
     }
 }

@@ -101,6 +101,11 @@ final class Check {
         bad(ahead + behind, fault, ahead.length());
     }
 
+    /** How many answers were looked at so far. */
+    int asked() {
+        return asked;
+    }
+
     void finish() {
         System.out.println(what + ": " + asked + " answers, " + wrong + " not as due");
         if (wrong != 0) {

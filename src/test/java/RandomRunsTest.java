@@ -3,9 +3,11 @@ import java.util.Arrays;
 /** Towns and calls drawn, each answer compared with that of the Model. */
 public final class RandomRunsTest {
     private static final Check CHECK = new Check("RandomRunsTest");
+    /** What an object answers to later calls is free. */
+    private static final int MOST_CALLS = 512;
 
     public static void main(String[] args) {
-        int runs = args.length > 0 ? Integer.parseInt(args[0]) : 400;
+        int runs = args.length > 0 ? Integer.parseInt(args[0]) : 2000;
         for (int seed = 1; seed <= runs; seed++) {
             new RandomRunsTest(seed).run();
         }
@@ -19,6 +21,7 @@ public final class RandomRunsTest {
     private int units;
     private int unitsHere;
     private int longest;
+    private int feeds = 0;
 
     private RandomRunsTest(int seed) {
         this.seed = seed;
@@ -26,9 +29,11 @@ public final class RandomRunsTest {
     }
 
     private void run() {
+        int start = CHECK.asked();
         tell();
         boolean faces = draws.once(3);
-        for (int i = 0; i < 120; i++) {
+        // A town told anew takes some ninety calls, one kind of call some twenty.
+        for (int i = 0; feeds + CHECK.asked() - start + callsToCompareAll() < MOST_CALLS - 110; i++) {
             if (draws.once(150)) {
                 tell();
             }
@@ -39,10 +44,11 @@ public final class RandomRunsTest {
             } else {
                 ask("run " + seed + ", call " + i);
             }
-            if (i % 10 == 9) {
-                compareAll("run " + seed + ", behind call " + i);
+            if (i % 4 == 3) {
+                compareSome("run " + seed + ", behind call " + i);
             }
         }
+        compareAll("run " + seed + ", at the end");
     }
 
     // ---- a town drawn
@@ -53,6 +59,7 @@ public final class RandomRunsTest {
         while (units > 60 || longest > 30 || text.length() > 1600) {
             text = drawTown();
         }
+        feeds += text.length() / 20 + 3;
         CHECK.due("run " + seed + ": town() of " + text, Check.tell(x, text), model.people.size());
     }
 
@@ -326,6 +333,21 @@ public final class RandomRunsTest {
             }
             default: CHECK.due(at + ": forged(" + k + ")", x.forged(k), model.forged(k));
         }
+    }
+
+    private void compareSome(String at) {
+        int what = draws.from(-1, 18);
+        CHECK.due(at + ": about(" + what + ")", x.about(what), model.about(what, 0, units));
+        int p = anyone();
+        what = draws.from(-1, 5);
+        CHECK.due(at + ": person(" + p + ", " + what + ")", x.person(p, what), model.person(p, what));
+        int loan = draws.from(-1, model.now.loans.size());
+        what = draws.from(-1, 5);
+        CHECK.due(at + ": loan(" + loan + ", " + what + ")", x.loan(loan, what), model.loan(loan, what));
+    }
+
+    private int callsToCompareAll() {
+        return 21 + 7 * (model.people.size() + 2) + 7 * (model.now.loans.size() + 2);
     }
 
     private void compareAll(String at) {

@@ -33,7 +33,7 @@ public final class YearsBoundsTest {
         }
     }
 
-    /** "NONE, doing nothing, if it would be above 1,000": 1,000 may be. */
+    /** "NONE, doing nothing, if it would be above 1,000": 1,000 may be. (No object gets so far by 512 calls.) */
     static void theYearIs1000AtMost() {
         YearHands x = Check.town("ages 0 to 150;" + ONE);
         for (int year = 1; year <= 999; year++) {
