@@ -220,6 +220,7 @@ public final class FacesBoundsTest {
         CHECK.due("sure(0, 0)", x.sure(0, 0), 28);
         CHECK.due("forged(0)", x.forged(0), 1);
         CHECK.due("a FACE of the dead", x.face(1, 20), 1);
+        CHECK.due("he was so, though he is not", x.forged(0), 1);
         x.undo();
         CHECK.due("FACES are not undone", x.about(13), 2);
         CHECK.due("forged(0)", x.forged(0), 1);

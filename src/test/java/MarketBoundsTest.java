@@ -107,6 +107,18 @@ public final class MarketBoundsTest {
         CHECK.due("market(5, 0)", x.market(5, 0), -11);
     }
 
+    /** "By all as it is now": ages and coins behind ACTS. */
+    static void theMarketIsByAgesAndCoinsNow() {
+        YearHands x = Check.town("person a age 30 coin 0 need 20;person b age 10 coin 100 need 30;friend a to b price 9;");
+        x.give(0, 1, 10);
+        CHECK.due("a offers none, b asks for 10", x.market(0, 0), 10);
+        CHECK.due("b has 10 coins", x.market(5, 0), 2);
+        CHECK.due("asked less offered", x.rests(0, 1), 0);
+        CHECK.due("none at 11", x.rests(0, 0), 11);
+        x.undo();
+        CHECK.due("undone", x.rests(0, 0), 10);
+    }
+
     // ---- RESTS, promise 25
 
     /** "the price (0 .. 99) at which that is least off from 0": 0. */

@@ -307,6 +307,46 @@ public final class RoadsBoundsTest {
         CHECK.due("none", x.cheapest(), 0);
     }
 
+    /** "By all as it is now": others give and take from the ages that they are of behind ACTS. */
+    static void barredAndReachAreByAgesNow() {
+        YearHands x = Check.town("ages 10 to 60;person a age 30 coin 0;person b age 20 coin 0;person c age 50 coin 0;person d age 55 coin 0;"
+            + "friend a to b price 1;friend b to c price 1;friend d to a price 0;friend a to d price 0;right r age=50;right s age=20;");
+        x.target(1, 50);
+        CHECK.due("a and d can give 65", x.barred(), 0);
+        CHECK.due("b from 20 to 50", x.reach(1, 0, 0), 30);
+        x.give(0, 3, 5);
+        CHECK.due("a gave 5 to d", x.reach(1, 0, 0), 30);
+        x = Check.town("ages 10 to 60;person a age 30 coin 0;person b age 20 coin 0;friend a to b price 1;friend b to a price 0;"
+            + "right r age=40;right s age=60;right t age=10;");
+        CHECK.due("all that a has", x.reach(1, 0, 0), 20);
+        x.give(1, 0, 5);
+        CHECK.due("all that a has now", x.reach(1, 0, 0), 25);
+        x.target(1, 41);
+        CHECK.due("one more", x.barred(), 2);
+        x.year();
+        CHECK.due("one more, a YEAR later", x.barred(), 0);
+        CHECK.due("b is 16", x.reach(1, 0, 0), 24);
+        x = Check.town("ages 10 to 60;person a age 50 coin 0;person b age 55 coin 0;friend a to b price 1;friend b to a price 0;"
+            + "right r age=44;");
+        CHECK.due("b can take five alone", x.reach(0, 0, 0), -1);
+        x.give(1, 0, 1);
+        CHECK.due("b can take six now, a lacks seven", x.reach(0, 0, 0), -1);
+        x.target(0, 45);
+        CHECK.due("six can go", x.barred(), 0);
+        x.target(0, 44);
+        CHECK.due("seven can't", x.barred(), 1);
+    }
+
+    /** "(those of the dead are no matter)": yet one can be told of the dead. */
+    static void aTargetOfTheDeadCanBe() {
+        YearHands x = Check.town(TOWN + "odds 100*(age=51);");
+        CHECK.due("c dies", x.year(), 1);
+        CHECK.due("target(2, 10)", x.target(2, 10), 1);
+        CHECK.due("cheapest()", x.cheapest(), 0);
+        CHECK.due("barred()", x.barred(), 0);
+        CHECK.due("hush()", x.hush(), 1);
+    }
+
     /** "nothing is done": by CHEAPEST, BARRED, REACH. */
     static void nothingIsDone() {
         YearHands x = targets(TOWN + "right r age>59;", 29, 21);

@@ -143,6 +143,32 @@ public final class SharesBoundsTest {
         CHECK.lies("twice(0)", x);
     }
 
+    /** "By all as it is now": whoever gives, takes has his age behind ACTS. */
+    static void twiceIsByAgesNow() {
+        YearHands x = Check.town(KIN.replace("price 99", "price 0") + "right r family=1 or age=41;right s family=1 or age=33;");
+        CHECK.due("twenty years are all that a has", x.twice(0), 0);
+        x.year();
+        CHECK.due("a YEAR later", x.twice(0), 1);
+        CHECK.lies("20 of 31 to who is 21", x, 0, 1, 20);
+        x.give(0, 1, 2);
+        CHECK.due("behind a GIFT", x.twice(0), 1);
+        CHECK.lies("18 of 29 to who is 23", x, 0, 1, 18);
+        x.give(0, 1, 18);
+        CHECK.due("he has it", x.twice(0), 0);
+        x.undo();
+        x.give(0, 1, 17);
+        CHECK.due("a has two years", x.twice(0), 1);
+        CHECK.lies("1 of 12", x, 0, 1, 1);
+        x.give(0, 1, 2);
+        CHECK.due("a has none, b is too old", x.twice(0), 0);
+        CHECK.due("b is too old", x.twice(1), 0);
+        x = Check.town(KIN + "person c age 50 coin 0;friend c to a price 0;right r family=1 or age=41;");
+        CHECK.due("a has 20, b lacks 21", x.twice(0), 0);
+        x.give(2, 0, 1);
+        CHECK.due("a has 21 now", x.twice(0), 1);
+        CHECK.lies("a has 21 now", x, 0, 1, 21);
+    }
+
     // ---- FAIR, promise 30
 
     /** "a family's years as like as can be": they go up. */
@@ -212,6 +238,16 @@ public final class SharesBoundsTest {
         CHECK.due("b dies", x.year(), 1);
         CHECK.due("fair(0)", x.fair(0), 10);
         CHECK.lies("fair(0)", x, 21, 21);
+    }
+
+    /** "By all as it is now": who is older now has one more. */
+    static void fairIsByAgesNow() {
+        YearHands x = Check.town(people(10, 21) + "friend b to a price 0;");
+        CHECK.due("fair(0)", x.fair(0), 5);
+        CHECK.lies("b is older", x, 15, 16);
+        x.give(1, 0, 10);
+        CHECK.due("fair(0)", x.fair(0), 4);
+        CHECK.lies("a is older", x, 16, 15);
     }
 
     /** "Ages then lie there, by its PEOPLE": eight of them. */
@@ -343,6 +379,26 @@ public final class SharesBoundsTest {
         CHECK.due("b dies", x.year(), 1);
         CHECK.due("all(0, 0)", x.all(0, 0), 1);
         CHECK.lies("all(0, 0)", x, 2);
+    }
+
+    /** "By all as it is now": ages behind ACTS. */
+    static void allIsByAgesNow() {
+        YearHands x = Check.town(TWO.replace("price 99", "price 0") + "right r age=41;");
+        CHECK.due("twenty years are all that a has", x.all(0, 0), 0);
+        x.year();
+        CHECK.due("a YEAR later", x.all(0, 0), 1);
+        x.give(0, 1, 11);
+        CHECK.due("9 of 20 to who is 32", x.all(0, 0), 1);
+        x.give(0, 1, 9);
+        CHECK.due("he has it", x.all(0, 0), 0);
+        x.give(0, 1, 1);
+        CHECK.due("he is too old", x.all(0, 0), 0);
+        x.undo();
+        x.undo();
+        x.undo();
+        x.undo();
+        x.give(0, 1, 15);
+        CHECK.due("a has 5 of 20, b lacks 6", x.all(0, 0), 0);
     }
 
     /** "nothing is done" by TWICE, FAIR, ALL. */

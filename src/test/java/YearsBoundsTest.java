@@ -486,6 +486,27 @@ public final class YearsBoundsTest {
         CHECK.due("the YEAR", x.about(5), 5);
     }
 
+    /** "UNDO takes back the latest ACT": the one before it stays as it was done, years and coins. */
+    static void undoLeavesTheActBefore() {
+        YearHands x = Check.town("person a age 30 coin 5;person b age 20 coin 50;friend a to b price 7;");
+        x.give(0, 1, 2);
+        x.lend(0, 1, 3, 5);
+        x.give(0, 1, 1);
+        x.year();
+        x.undo();
+        CHECK.due("a's coin", x.person(0, 1), 26);
+        CHECK.due("b's coin", x.person(1, 1), 29);
+        x.undo();
+        CHECK.due("a's coin", x.person(0, 1), 19);
+        CHECK.due("b's coin", x.person(1, 1), 36);
+        ages("the LOAN stays", x, 25, 25);
+        CHECK.due("LOANS", x.about(8), 1);
+        x.undo();
+        CHECK.due("a's coin", x.person(0, 1), 19);
+        CHECK.due("b's coin", x.person(1, 1), 36);
+        ages("the GIFT stays", x, 28, 22);
+    }
+
     /** "UNDO takes back": a LOAN that was taken back does not come back. */
     static void aLoanTakenBackDoesNotComeBack() {
         YearHands x = Check.town(RING);
@@ -531,6 +552,41 @@ public final class YearsBoundsTest {
         CHECK.due("two are dead", x.about(7), 1);
         CHECK.due("undo()", x.undo(), true);
         CHECK.due("all are alive", x.about(7), 7);
+    }
+
+    /** "REDO does that again": a GIFT is paid again. */
+    static void aGiftDoneAgainIsPaidAgain() {
+        YearHands x = Check.town("person a age 30 coin 5;person b age 20 coin 50;friend a to b price 7;");
+        x.give(0, 1, 2);
+        x.undo();
+        CHECK.due("a's coin is back", x.person(0, 1), 5);
+        CHECK.due("b's coin is back", x.person(1, 1), 50);
+        x.redo();
+        CHECK.due("a's coin", x.person(0, 1), 19);
+        CHECK.due("b's coin", x.person(1, 1), 36);
+        ages("years", x, 28, 22);
+    }
+
+    /** "REDO does that again": a YEAR with its deaths, SEED, LOANS, DEFAULTS. */
+    static void aYearDoneAgainIsAsItWas() {
+        YearHands x = Check.town(RING + "odds 100*(age=21);draw 7;");
+        x.lend(1, 0, 5, 1);
+        x.lend(1, 0, 6, 1);
+        x.give(0, 2, 11);
+        x.give(2, 1, 11);
+        x.year();
+        int[] behind = new int[10];
+        for (int what = 5; what < 10; what++) {
+            behind[what] = x.about(what);
+        }
+        int[] old = {x.person(0, 0), x.person(1, 0), x.person(2, 0)};
+        x.undo();
+        x.redo();
+        for (int what = 5; what < 10; what++) {
+            CHECK.due("about(" + what + ")", x.about(what), behind[what]);
+        }
+        ages("as it was", x, old);
+        CHECK.due("both are OVER", x.loan(0, 4) + x.loan(1, 4), 2);
     }
 
     /** "(till another ACT)": a GIFT, a LOAN, a YEAR. */
