@@ -498,7 +498,7 @@ public final class FacesBoundsTest {
         }
     }
 
-    /** By no GIFTS alone one is of the age that was told. */
+    /** "his age by all of them": by no GIFTS alone it is the one that was told. */
     static void sureWithoutFriends() {
         YearHands x = Check.town(THREE);
         CHECK.due("sure(2, 0)", x.sure(2, 0), 40);

@@ -131,7 +131,7 @@ public final class FaultsBoundsTest {
         }
     }
 
-    /** What stands around a unit too many is none: a TOKEN that is no unit is at its own place. */
+    /** "a unit too many": what stands around it is none, a TOKEN that is no unit is at its own place. */
     static void whatIsNoUnitIsNoUnitTooMany() {
         CHECK.badBehind("right x " + THIRTY, ");", 2);
         CHECK.badBehind("right x " + THIRTY + " and not not ", "1;", 2);

@@ -430,7 +430,7 @@ public final class LinesBoundsTest {
         CHECK.badBehind("right x (((((((1)))))))+(((((((", "(1))))))));", 2);
     }
 
-    /** A unit without an e, a one without not may be within seven. */
+    /** "(a unit ( e ), or a one behind not, within 6": other units, ones may be within seven. */
     static void otherUnitsMayBeWithinSeven() {
         CHECK.good("right x (((((((age = 1 and coin or year)))))));");
         CHECK.good("right x " + "not ".repeat(7) + "age + 1 = 2;");

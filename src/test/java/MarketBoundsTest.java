@@ -29,7 +29,7 @@ public final class MarketBoundsTest {
         CHECK.due("all below", Check.town("person a age 0 coin 999 need 120;").market(1, 0), 120);
     }
 
-    /** Who is as old as his need neither offers nor asks. */
+    /** "who is older than his need .. who is younger": who is as old neither offers nor asks. */
     static void whoIsAsOldAsHisNeedDoesNeither() {
         CHECK.due("told", Check.town("person a age 20 coin 99 need 20;").market(1, 0), 0);
         CHECK.due("not told", Check.town("person a age 20 coin 99;").market(0, 0), 0);

@@ -143,7 +143,7 @@ public final class RoadsBoundsTest {
         CHECK.due("seven GIFTS", cheapest(row("ages 0 to 150;", 99), 149, -1, -1, -1, -1, -1, -1, 1), 7 * 99);
     }
 
-    /** The most that prices together can be: 150 years by seven GIFTS of 99. */
+    /** "the fewest prices together": the most that they can be, 150 years by seven GIFTS of 99. */
     static void theMostYearsByTheLongestRoad() {
         CHECK.due("150 years", cheapest(row("ages 0 to 150;", 99), 0, -1, -1, -1, -1, -1, -1, 150), 150 * 7 * 99);
     }

@@ -65,7 +65,7 @@ public final class SafetyBoundsTest {
         safest("ages 0 to 20;" + people(10, 11) + "odds 9*(age=10)+9*(age=11)+50*(age<10)+50*(age>11);", 18, 10, 11);
     }
 
-    /** The most years that can be: eight at 150. */
+    /** "together as many years as now": the most that can be, eight at 150. */
     static void theMostYears() {
         safest("ages 0 to 150;" + people(150, 150, 150, 150, 150, 150, 150, 150) + "odds age-60;", 720,
             150, 150, 150, 150, 150, 150, 150, 150);
@@ -73,7 +73,7 @@ public final class SafetyBoundsTest {
             149, 150, 150, 150, 150, 150, 150, 150);
     }
 
-    /** The most ODDS that can be: 100 of each of eight. */
+    /** "ODDS together": the most that can be, 100 of each of eight. */
     static void theMostOdds() {
         safest("ages 0 to 150;" + people(75, 75, 75, 75, 75, 75, 75, 75) + "odds 100;", 800, 0, 0, 0, 0, 150, 150, 150, 150);
     }

@@ -212,7 +212,7 @@ public final class SharesBoundsTest {
         CHECK.lies("fair(3)", x, 20, 20);
     }
 
-    /** A family that nobody is of: none change hands, and nothing lies there. */
+    /** "FAIR of a family (0 .. 3)": one that nobody is of; no years change hands, and nothing lies there. */
     static void fairOfAFamilyWithoutPeople() {
         YearHands x = Check.town(people(10, 20));
         for (int family = 1; family < 4; family++) {

@@ -53,7 +53,7 @@ public final class TapeBoundsTest {
         CHECK.due("sum(-1)", x.sum(-1), 0);
     }
 
-    /** What an empty TOWN answers to all that asks for the number of one. */
+    /** "An empty TOWN.": what asks for one by his number finds nobody. */
     static void inAnEmptyTownThereIsNobody() {
         YearHands x = new YearHands();
         CHECK.due("give(0, 1, 1)", x.give(0, 1, 1), -1);
@@ -73,7 +73,7 @@ public final class TapeBoundsTest {
         CHECK.due("back(0)", x.back(0), -1);
     }
 
-    /** What an empty TOWN answers to all that is reckoned of all. */
+    /** "An empty TOWN.": what is reckoned of all is reckoned of nobody. */
     static void inAnEmptyTownAllIsReckonedOfNobody() {
         YearHands x = new YearHands();
         CHECK.due("hush()", x.hush(), 0);
@@ -116,7 +116,7 @@ public final class TapeBoundsTest {
         CHECK.due("odds(0)", x.odds(0), 45);
     }
 
-    /** Each of the twenty bytes stands at its own place. */
+    /** "of each number the highest first": each of the twenty bytes stands at its own place. */
     static void eachByteStandsAtItsPlace() {
         for (int place = 0; place < 20; place++) {
             int[] numbers = {BLANKS, BLANKS, BLANKS, BLANKS, BLANKS};
@@ -129,7 +129,7 @@ public final class TapeBoundsTest {
         }
     }
 
-    /** Bytes above 127, from numbers below 0: they are bytes, and no TOKENS. */
+    /** "Twenty bytes come": those above 127, of numbers below 0, are bytes, too, and no TOKENS. */
     static void bytesAbove127AreNoTokens() {
         YearHands x = new YearHands();
         CHECK.due("feed", x.feed(0x202020e1, -1, Integer.MIN_VALUE, -1, -1), 20);

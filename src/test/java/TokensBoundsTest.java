@@ -53,7 +53,7 @@ public final class TokensBoundsTest {
         CHECK.badBehind("right ", "abcdefghi 1;", 1);
     }
 
-    /** Each letter of eight counts: NAMES unlike in one alone are two. */
+    /** "words (a .. z, 8 at most)": each letter of eight counts, NAMES unlike in one alone are two. */
     static void wordsOfEightLettersAreReadWhole() {
         CHECK.good("right aaaaaaaa 1;right baaaaaaa 1;right aaaaaaab 1;right zzzzzzzz 1;right zzzzzzz 1;right z 1;");
         CHECK.badBehind("right zzzzzzzz 1;right ", "zzzzzzzz 1;", 3);
@@ -73,7 +73,7 @@ public final class TokensBoundsTest {
         CHECK.due("9999 is read whole", x.has(0, 0), 1);
     }
 
-    /** Digits are 0 to 9, the signs beside them are none. */
+    /** "N (1 to 4 digits)": digits are 0 to 9, the signs beside them are none. */
     static void digitsAre0To9() {
         CHECK.due("SEED", CHECK.good("draw 0;").about(6), 0);
         CHECK.due("SEED", CHECK.good("draw 909;").about(6), 909);
@@ -94,7 +94,7 @@ public final class TokensBoundsTest {
         }
     }
 
-    /** Each of these signs is a TOKEN where it can stand. */
+    /** "signs ; ( ) < > = + - * / %": each is a TOKEN where it can stand. */
     static void eachSignIsAToken() {
         CHECK.good("right x (1+2-3*4/5%6)<7;right y 1>2;right z 1=2;");
     }
@@ -115,7 +115,7 @@ public final class TokensBoundsTest {
         CHECK.due("units", CHECK.good("right x not(age+1)*(2)and(3)or not year;").about(16), 8);
     }
 
-    /** Blanks do part rows: what is on both sides is no row together. */
+    /** "blanks (32, 10) part them": what is on both sides is no row together. */
     static void blanksPartRows() {
         CHECK.bad("dr aw 7;", 2, 0);
         CHECK.badBehind("draw 7 ", "7;", 2);
@@ -153,7 +153,7 @@ public final class TokensBoundsTest {
         CHECK.badBehind("draw ", "9".repeat(1595), 1);
     }
 
-    /** 4,294,967,303 is 7 as an int that wraps. */
+    /** "a longer row .. of digits is no TOKEN": 4,294,967,303, which is 7 as an int that wraps. */
     static void aLongerRowOfDigitsDoesNotWrap() {
         CHECK.badBehind("draw ", "4294967303;", 1);
         CHECK.badBehind("draw ", "18446744073709551623;", 1);
@@ -169,7 +169,7 @@ public final class TokensBoundsTest {
         CHECK.badBehind("right x ", "1or 2;", 1);
     }
 
-    /** A letter that a blank parts from an N is not directly behind it. */
+    /** "no letter directly behind an N": one that a blank parts from it is not directly behind. */
     static void aLetterBehindABlankBehindAnN() {
         CHECK.good("ages 1 to 2;");
         CHECK.good("ages 1\nto 2;");
@@ -181,7 +181,7 @@ public final class TokensBoundsTest {
         CHECK.good("ages1 to2;person a age1 coin1 need1 family1;person b age1 coin1;friend a to b price1;right x1;odds1;");
     }
 
-    /** The letter that an older, longer text had there is not behind the N, nor are its other TOKENS. */
+    /** "The TAPE has its first n bytes": what an older, longer text had behind these is no part of the text. */
     static void whatIsBehindTheEndIsNoText() {
         YearHands x = new YearHands();
         Check.put(x, "draw 7;draw 8;");
@@ -227,7 +227,7 @@ public final class TokensBoundsTest {
         }
     }
 
-    /** Words with a letter more or less than those are NAMES. */
+    /** "Words that stand for themselves here": those with a letter more or less are NAMES. */
     static void wordsNextToThoseAreNames() {
         String[] words = {"perso", "persons", "ag", "agea", "coi", "coins", "nee", "needs", "famil", "familyy", "frien",
             "friends", "t", "too", "pric", "prices", "righ", "rights", "odd", "oddss", "agess", "dra", "draws", "o", "ore",

@@ -611,7 +611,7 @@ public final class YearsBoundsTest {
         }
     }
 
-    /** What is no ACT leaves what can be redone: TARGETS, FACES, the TIME, images, questions. */
+    /** "(till another ACT)": TARGETS, FACES, the TIME, images, questions, what can't be are none. */
     static void redoBehindWhatIsNoAct() {
         YearHands x = Check.town(RING);
         x.year();
@@ -628,7 +628,7 @@ public final class YearsBoundsTest {
         CHECK.due("redo()", x.redo(), true);
     }
 
-    /** ACTS alone are taken back: TARGETS, FACES, the TIME, what lies there stay. */
+    /** "UNDO takes back the latest ACT": TARGETS, FACES, the TIME, what lies there stay. */
     static void undoOfActsAlone() {
         YearHands x = Check.town(RING);
         x.year();
@@ -787,7 +787,7 @@ public final class YearsBoundsTest {
         CHECK.due("what lies there", x.about(17), 3);
     }
 
-    /** A BOX keeps LOANS: one lent behind the image is none, its number is free. */
+    /** "LOANS .. are kept": one lent behind the image is none, its number is free. */
     static void loansBehindTheImageAreNone() {
         YearHands x = Check.town(RING);
         x.image(0);
