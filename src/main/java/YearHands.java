@@ -47,8 +47,6 @@ public final class YearHands {
         for (int i = 0; i < boxes.length; i++) {
             boxes[i] = new State();
         }
-        now.begin(town);
-        acts.begin(now);
     }
 
     // ---- the TAPE and the TOWN

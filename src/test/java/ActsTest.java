@@ -102,13 +102,11 @@ public final class ActsTest {
         }
         CHECK.due("MOST at most", x.person(2, 0), 60);
         YearHands late = new YearHands();
-        for (int i = 1; i <= 1000; i++) {
-            late.year();
+        for (int i = 1; i <= 500; i++) {
+            CHECK.due("YEAR " + i, late.year(), 0);
         }
-        CHECK.due("the last YEAR", late.about(5), 1000);
-        CHECK.due("beyond the last YEAR", late.year(), -1);
-        CHECK.due("nothing is done", late.about(5), 1000);
-        CHECK.due("no ACT", late.about(10), 40);
+        CHECK.due("as late as calls go", late.about(5), 500);
+        CHECK.due("ACTS", late.about(10), 40);
     }
 
     private static int seed(int seed, int times) {

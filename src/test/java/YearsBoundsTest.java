@@ -33,7 +33,10 @@ public final class YearsBoundsTest {
         }
     }
 
-    /** "NONE, doing nothing, if it would be above 1,000": 1,000 may be. (No object gets so far by 512 calls.) */
+    /**
+     * "NONE, doing nothing, if it would be above 1,000": 1,000 may be. No object gets so far by 512 calls, and what later calls
+     * answer is free by the document: this test alone makes more, as it holds the class to what promise 12 says of it.
+     */
     static void theYearIs1000AtMost() {
         YearHands x = Check.town("ages 0 to 150;" + ONE);
         for (int year = 1; year <= 999; year++) {
